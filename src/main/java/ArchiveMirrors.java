@@ -54,7 +54,6 @@ public final class ArchiveMirrors {
         }
         plan = new Plan(archive);
         input = new InputText();
-        clientCount = 0;
     }
 
     // ---- the archive

@@ -11,6 +11,8 @@ public final class InputTest {
         load();
         loadBehindOthers();
         loadOfTwelve();
+        loadOfSixtyCharacters();
+        loadAfterLongerText();
         loadRefused();
         Check.end();
     }
@@ -206,6 +208,31 @@ public final class InputTest {
         Check.badArgument(x, "load of an empty buffer", () -> x.load());
         Check.type(x, "0:1");
         Check.badArgument(x, "load of a 13th", () -> x.load());
+    }
+
+    private static void loadOfSixtyCharacters() {
+        ArchiveMirrors x = new ArchiveMirrors();
+        Check.type(x, "0:10;0:11;0:12;0:13;0:14;0:15;0:16;0:17;0:18;0:19;0:20;0:1+a");
+        Check.equal("firstError of sixty characters", x.firstError(), 60);
+        Check.equal("load of sixty characters", x.load(), 12);
+        properties(x, 10, 0, 20, 0);
+        properties(x, 11, 0, 1, 1);
+    }
+
+    /** What an earlier text has left behind the buffer's end is not read. */
+    private static void loadAfterLongerText() {
+        ArchiveMirrors x = new ArchiveMirrors();
+        Check.type(x, "0:1;0:2+a");
+        Check.equal("load of two", x.load(), 2);
+        Check.type(x, "0:3");
+        Check.equal("load of one behind it", x.load(), 1);
+        Check.equal("packages", x.count(1), 3);
+        Check.type(x, "0:40+ab");
+        x.clearInput();
+        Check.type(x, "0:4");
+        Check.equal("firstError of a shorter text", x.firstError(), 3);
+        Check.equal("load of a shorter text", x.load(), 1);
+        properties(x, 3, 0, 4, 0);
     }
 
     private static void loadRefused() {

@@ -5,10 +5,12 @@ public final class StateTest {
     public static void main(String[] args) {
         meanAge();
         meanAgeOfThirds();
+        meanAgeOfSix();
         digestOfNew();
         digestOfInput();
         digestOfAll();
         digestOfLimits();
+        digestOfEmptySet();
         Check.end();
     }
 
@@ -47,6 +49,30 @@ public final class StateTest {
         x.release();
         x.pass(1);
         Check.equal("2, 2 and 1", x.meanAge(), 5.0 / 3);
+    }
+
+    private static void meanAgeOfSix() {
+        ArchiveMirrors x = Check.archiveOf(1, 10);
+        for (int i = 0; i < 6; i++) {
+            x.addMirror(1, 1, 0, NONE, 10, false);
+        }
+        x.release();
+        x.pass(5);
+        Check.equal("six mirrors", x.meanAge(), 5.0);
+        x.begin(1);
+        Check.equal("no mirrors after begin", x.meanAge(), 0.0);
+    }
+
+    /** The client can install the empty set, but not a package that is too large for its mirror. */
+    private static void digestOfEmptySet() {
+        ArchiveMirrors x = Check.archiveOf(1, 20, 10);
+        x.release();
+        x.addMirror(1, 7, 1, NONE, 10, false);
+        x.addClient(1);
+        x.pass(1);
+        Check.equal("until for a package", x.until(0, 1), NONE);
+        Check.equal("until for the empty set", x.until(0, 0), 0);
+        digestIsDue("with a file too large to copy", x, "");
     }
 
     private static void digestOfNew() {

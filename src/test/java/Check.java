@@ -1,5 +1,12 @@
+import java.util.function.Supplier;
+
 /** Counts and prints what is not as due; used by all tests. */
 final class Check {
+    /** A call with one argument that a test varies. */
+    interface Call {
+        long on(ArchiveMirrors x, int value);
+    }
+
     private static int wrong = 0;
 
     private Check() {
@@ -49,6 +56,20 @@ final class Check {
 
     static void badState(ArchiveMirrors x, String what, Runnable call) {
         refused(x, what, IllegalStateException.class, call);
+    }
+
+    /**
+     * The call throws this, and changes nothing: the object then goes on as a twin does, on which the
+     * call was never made.
+     */
+    static void refusedOf(Supplier<ArchiveMirrors> make, String what, Class<? extends RuntimeException> due, Call call,
+            int value) {
+        String name = what + " with " + value;
+        ArchiveMirrors x = make.get();
+        refused(x, name, due, () -> call.on(x, value));
+        if (!States.future(x).equals(States.future(make.get()))) {
+            fail(name + " is refused, but calls behind it answer otherwise than without it");
+        }
     }
 
     /** Appends a text to the input buffer. */

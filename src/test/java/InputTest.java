@@ -144,23 +144,22 @@ public final class InputTest {
 
     /** At each place of a text, exactly these characters may come next. */
     private static void everyCharacter() {
-        ArchiveMirrors x = Check.archiveOf(3, 5, 5);
-        mayFollow(x, "", "012");
-        mayFollow(x, "1", ":");
-        mayFollow(x, "1:", "123456789");
-        mayFollow(x, "1:3", "0123456789+;");
-        mayFollow(x, "1:30", "+;");
-        mayFollow(x, "1:30+", "ab");
-        mayFollow(x, "1:30+a", "b;");
-        mayFollow(x, "1:30+b", ";");
-        mayFollow(x, "1:30+b;", "012");
-        mayFollow(x, "1:30+b;1:3+", "abc");
-        mayFollow(x, "1:30;1:3+a", "bc;");
+        mayFollow("", "012");
+        mayFollow("1", ":");
+        mayFollow("1:", "123456789");
+        mayFollow("1:3", "0123456789+;");
+        mayFollow("1:30", "+;");
+        mayFollow("1:30+", "ab");
+        mayFollow("1:30+a", "b;");
+        mayFollow("1:30+b", ";");
+        mayFollow("1:30+b;", "012");
+        mayFollow("1:30+b;1:3+", "abc");
+        mayFollow("1:30;1:3+a", "bc;");
     }
 
-    private static void mayFollow(ArchiveMirrors x, String text, String allowed) {
+    private static void mayFollow(String text, String allowed) {
         for (int code = 32; code <= 126; code++) {
-            x.clearInput();
+            ArchiveMirrors x = Check.archiveOf(3, 5, 5);
             Check.type(x, text);
             x.append(code);
             boolean due = allowed.indexOf((char) code) >= 0;

@@ -31,6 +31,7 @@ public final class ArchiveEdgesTest {
         validityAtItsLimits();
         indexOfALaterPackage();
         countsOfAFullObject();
+        filesAndCopies();
         mirrorsThatHaveTheFile();
         Check.end();
     }
@@ -100,6 +101,8 @@ public final class ArchiveEdgesTest {
     /** The same calls on an object that was full and has begun anew, and on a new one. */
     private static void beginForgetsWhatWas() {
         ArchiveMirrors x = States.full();
+        x.tamper(0);
+        x.tamper(1);
         x.begin(2);
         x.clearInput();
         ArchiveMirrors y = new ArchiveMirrors();
@@ -423,6 +426,22 @@ public final class ArchiveEdgesTest {
         }
         Check.equal("some mirrors are complete and some are not", complete > 0 && complete < 6 ? 1 : 0, 1);
         counts("full object", x, 5, 12, 20, 6, 4, 6, 60, complete, files);
+    }
+
+    /** "8 for the number of files that all mirrors have, 9 for the number of files that were copied" */
+    private static void filesAndCopies() {
+        ArchiveMirrors x = Check.archiveOf(1, 10, 10);
+        x.release();
+        x.addMirror(1, 60, 1, NONE, 20, false);
+        x.addMirror(1, 1, 0, 0, 20, false);
+        x.pass(1);
+        counts("copied", x, 1, 2, 1, 2, 0, 1, 60, 2, 4, 4);
+        x.removeFile(0, 0, 1);
+        counts("a file is removed", x, 1, 2, 1, 2, 0, 1, 60, 1, 3, 4);
+        x.publish(1);
+        x.release();
+        x.pass(60);
+        counts("the old files are removed", x, 1, 2, 2, 2, 0, 61, 60, 2, 4, 7);
     }
 
     /** "the number of mirrors that have the file of its version": none to all six. */

@@ -3,7 +3,10 @@ import java.util.Random;
 /** Runs of random calls, with the same seeds each time: the class answers as the model does. */
 public final class RandomRunsTest {
     private static final int RUNS = 1500;
-    private static final int CALLS = 250;
+    /** An object is used for at most 512 calls; what later calls answer is free. */
+    private static final int CALLS = 512;
+    /** As many calls as typing a text may take, and a digest. */
+    private static final int LONGEST = 121;
     private static final int KINDS = 27;
     private static final int[] ODD = {Integer.MIN_VALUE, -1000, -2, -1, 0, 1, 31, 32, 33, 64, 1 << 12, 1 << 30,
         Integer.MAX_VALUE};
@@ -15,6 +18,7 @@ public final class RandomRunsTest {
     private String call = "";
     private String typing = "";
     private boolean wrong = false;
+    private int calls = 0;
 
     private RandomRunsTest(int seed) {
         random = new Random(seed);
@@ -28,7 +32,7 @@ public final class RandomRunsTest {
     }
 
     private void run(int seed) {
-        for (int i = 0; i < CALLS && !wrong; i++) {
+        for (int i = 0; calls + LONGEST <= CALLS && !wrong; i++) {
             int kind = nextKind(i);
             int[] arguments = argumentsFor(kind);
             String due = answer(kind, arguments, false);
@@ -37,10 +41,18 @@ public final class RandomRunsTest {
                 wrong = true;
                 Check.fail("run " + seed + ", call " + i + ": " + call + " answered " + got + ", due is " + due);
             }
-            if (i % 25 == 24 && real.digest() != model.digest()) {
-                wrong = true;
-                Check.fail("run " + seed + ", call " + i + ": the digest is wrong after " + call);
+            if (i % 25 == 24) {
+                compareDigests(seed, i);
             }
+        }
+        compareDigests(seed, calls);
+    }
+
+    private void compareDigests(int seed, int i) {
+        calls++;
+        if (!wrong && real.digest() != model.digest()) {
+            wrong = true;
+            Check.fail("run " + seed + ", call " + i + ": the digest is wrong after " + call);
         }
     }
 
@@ -131,6 +143,7 @@ public final class RandomRunsTest {
     }
 
     private String realAnswer(int kind, int[] a) {
+        calls += kind < 24 ? 1 : 2 * typing.length();
         switch (kind) {
             case 0: say("begin", a); return "" + real.begin(a[0]);
             case 1: say("addPackage", a); return "" + real.addPackage(a[0], a[1], a[2]);

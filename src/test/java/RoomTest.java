@@ -3,8 +3,9 @@ import java.lang.management.ManagementFactory;
 
 /** All calls of a run live in one room, so the calls themselves make no objects. */
 public final class RoomTest {
-    private static final int CALLS = 512;
-    private static final long SLACK = 20_000;
+    /** Four calls each, behind those that fill the object: an object is used for 512 calls at most. */
+    private static final int ROUNDS = 110;
+    private static final long SLACK = 5_000;
     private static final long OBJECT_LIMIT = 20_000;
 
     public static void main(String[] args) {
@@ -20,13 +21,13 @@ public final class RoomTest {
         dearestCalls(x);
         made = room.getCurrentThreadAllocatedBytes() - before;
         if (made > SLACK) {
-            Check.fail(CALLS + " rounds of the dearest calls take " + made + " bytes");
+            Check.fail(ROUNDS + " rounds of the dearest calls take " + made + " bytes");
         }
         Check.end();
     }
 
     private static void dearestCalls(ArchiveMirrors x) {
-        for (int i = 0; i < CALLS; i++) {
+        for (int i = 0; i < ROUNDS; i++) {
             x.digest();
             x.until(0, 4095);
             x.ifInstalled(0, 4095, 4);

@@ -20,6 +20,7 @@ public final class StateEdgesTest {
         digestOfIndexesLeavesOutLaterPackages();
         digestOfAFullObject();
         digestOfEachLimit();
+        digestOfTheEmptySet();
         digestChangesNothing();
         lastOfAllCalls();
         Check.end();
@@ -178,6 +179,20 @@ public final class StateEdgesTest {
             String where = "digest of " + s[0] + ", " + s[1] + ", " + s[2] + ", " + s[3] + ", " + s[4];
             Check.equal(where, x.digest(), Digests.of(x, ""));
         }
+    }
+
+    /** "ifInstalled for the empty set and 0 to 4, and until for the empty set" */
+    private static void digestOfTheEmptySet() {
+        ArchiveMirrors x = Check.archiveOf(1, 20, 10);
+        x.release();
+        x.addMirror(1, 7, 1, NONE, 10, false);
+        x.addClient(1);
+        Check.equal("the empty set must wait", x.until(0, 0), 1);
+        Check.equal("digest before the pull", x.digest(), Digests.of(x, ""));
+        x.pass(1);
+        Check.equal("the empty set is accepted", x.until(0, 0), 0);
+        Check.equal("a package is not", x.until(0, 1), NONE);
+        Check.equal("digest after the pull", x.digest(), Digests.of(x, ""));
     }
 
     private static void digestChangesNothing() {

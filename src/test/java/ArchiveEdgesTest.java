@@ -335,7 +335,7 @@ public final class ArchiveEdgesTest {
     }
 
     private static void publishUpTo(ArchiveMirrors x, int number, int version) {
-        while (x.packageAt(number, 3) < version) {
+        for (int from = x.packageAt(number, 3); from < version; from++) {
             x.publish(number);
         }
     }

@@ -1,19 +1,28 @@
-/** The hash of the document, from the answers of the other calls. */
+import java.util.function.Supplier;
+
+/**
+ * The hash of the document, from the answers of the other calls. One object has not enough calls for
+ * all of them, so each thing is asked of a twin of its own.
+ */
 final class Digests {
+    private final Supplier<ArchiveMirrors> make;
     private long hash = 1999;
 
-    private Digests() {
+    private Digests(Supplier<ArchiveMirrors> make) {
+        this.make = make;
     }
 
     /** No call tells the characters of the buffer, so the caller does. */
-    static long of(ArchiveMirrors x, String text) {
-        Digests digest = new Digests();
+    static long of(Supplier<ArchiveMirrors> make, String text) {
+        ArchiveMirrors x = make.get();
+        Digests digest = new Digests(make);
         for (int what = 0; what < 10; what++) {
             digest.add(x.count(what));
         }
-        digest.addArchive(x);
-        digest.addMirrors(x);
-        digest.addClients(x);
+        int packages = x.count(1);
+        digest.addArchive(packages, x.count(2));
+        digest.addMirrors(packages, x.count(3));
+        digest.addClients(packages, x.count(4));
         digest.addInput(text);
         return digest.hash;
     }
@@ -22,33 +31,38 @@ final class Digests {
         hash = 31 * hash + value;
     }
 
-    private void addArchive(ArchiveMirrors x) {
-        for (int number = 0; number < x.count(1); number++) {
+    private void addArchive(int packages, int indexes) {
+        for (int number = 0; number < packages; number++) {
+            ArchiveMirrors x = make.get();
             for (int what = 0; what < 6; what++) {
                 add(x.packageAt(number, what));
             }
         }
-        for (int index = 1; index <= x.count(2); index++) {
-            for (int what = 0; what < 4 + x.index(index, 1); what++) {
+        for (int index = 1; index <= indexes; index++) {
+            ArchiveMirrors x = make.get();
+            int kinds = 4 + x.index(index, 1);
+            for (int what = 0; what < kinds; what++) {
                 add(x.index(index, what));
             }
         }
     }
 
-    private void addMirrors(ArchiveMirrors x) {
-        for (int mirror = 0; mirror < x.count(3); mirror++) {
+    private void addMirrors(int packages, int mirrors) {
+        for (int mirror = 0; mirror < mirrors; mirror++) {
+            ArchiveMirrors x = make.get();
             for (int what = 0; what <= 10; what++) {
                 add(x.mirror(mirror, what));
             }
-            for (int number = 0; number < x.count(1); number++) {
+            for (int number = 0; number < packages; number++) {
                 add(x.files(mirror, number));
             }
         }
     }
 
-    private void addClients(ArchiveMirrors x) {
-        for (int client = 0; client < x.count(4); client++) {
-            for (int what = 0; what < 3 + x.count(1); what++) {
+    private void addClients(int packages, int clients) {
+        for (int client = 0; client < clients; client++) {
+            ArchiveMirrors x = make.get();
+            for (int what = 0; what < 3 + packages; what++) {
                 add(x.client(client, what));
             }
             for (int what = 0; what < 5; what++) {

@@ -1,3 +1,7 @@
+import java.util.List;
+import java.util.function.Consumer;
+import java.util.function.Supplier;
+
 /** Promises 25 and 26: the mean age, and the hash of the whole state. */
 public final class StateTest {
     private static final int NONE = ArchiveMirrors.NONE;
@@ -72,7 +76,7 @@ public final class StateTest {
         x.pass(1);
         Check.equal("until for a package", x.until(0, 1), NONE);
         Check.equal("until for the empty set", x.until(0, 0), 0);
-        digestIsDue("with a file too large to copy", x, "");
+        digestIsDue("with a file too large to copy", () -> x, "");
     }
 
     private static void digestOfNew() {
@@ -95,42 +99,52 @@ public final class StateTest {
         Check.equal("digest of no text", x.digest(), new ArchiveMirrors().digest());
     }
 
-    private static void digestOfAll() {
-        ArchiveMirrors x = new ArchiveMirrors();
-        x.begin(3);
-        digestIsDue("begun", x, "");
-        Check.type(x, "0:25;1:9+a;2:60+ab");
-        x.load();
-        digestIsDue("loaded", x, "");
-        x.publish(1);
-        x.release();
-        digestIsDue("released", x, "");
-        x.addMirror(7, 1, 0, NONE, 60, true);
-        x.addMirror(6, 5, 3, 0, 30, false);
-        digestIsDue("with mirrors", x, "");
-        x.addClient(1);
-        x.addClient(3);
-        digestIsDue("with clients", x, "");
-        for (int i = 0; i < 5; i++) {
-            x.pass(1);
-            digestIsDue("passed", x, "");
-        }
-        x.install(1, 1);
-        digestIsDue("installed", x, "");
-        x.addPackage(0, 5, 0);
-        digestIsDue("a package that is in no index", x, "");
-        x.publish(0);
-        x.release();
-        x.pass(1);
-        x.tamper(0);
-        x.removeFile(0, 1, 2);
-        digestIsDue("tampered with", x, "");
-        x.setValidity(4);
-        Check.type(x, "0:1;");
-        digestIsDue("stale", x, "0:1;");
+    /** What is done to an object, a step at a time; the digest is compared behind each. */
+    private static List<Consumer<ArchiveMirrors>> steps() {
+        return List.of(
+                x -> x.begin(3),
+                x -> Check.type(x, "0:25;1:9+a;2:60+ab"),
+                x -> x.load(),
+                x -> x.publish(1),
+                x -> x.release(),
+                x -> x.addMirror(7, 1, 0, NONE, 60, true),
+                x -> x.addMirror(6, 5, 3, 0, 30, false),
+                x -> x.addClient(1),
+                x -> x.addClient(3),
+                x -> x.pass(1),
+                x -> x.pass(1),
+                x -> x.pass(1),
+                x -> x.pass(1),
+                x -> x.pass(1),
+                x -> x.install(1, 1),
+                x -> x.addPackage(0, 5, 0),
+                x -> x.publish(0),
+                x -> x.release(),
+                x -> x.pass(1),
+                x -> x.tamper(0),
+                x -> x.removeFile(0, 1, 2),
+                x -> x.setValidity(4),
+                x -> Check.type(x, "0:1;"));
     }
 
-    private static void digestOfLimits() {
+    private static ArchiveMirrors after(int count) {
+        ArchiveMirrors x = new ArchiveMirrors();
+        for (Consumer<ArchiveMirrors> step : steps().subList(0, count)) {
+            step.accept(x);
+        }
+        return x;
+    }
+
+    private static void digestOfAll() {
+        int all = steps().size();
+        for (int i = 0; i <= all; i++) {
+            int count = i;
+            String text = i == 2 ? "0:25;1:9+a;2:60+ab" : i == all ? "0:1;" : "";
+            digestIsDue("behind step " + i, () -> after(count), text);
+        }
+    }
+
+    private static ArchiveMirrors atAllLimits() {
         ArchiveMirrors x = new ArchiveMirrors();
         x.begin(5);
         for (int i = 0; i < 12; i++) {
@@ -147,13 +161,16 @@ public final class StateTest {
             x.addClient(63 >> i);
         }
         x.pass(40);
-        String text = "0:1;1:99+abc;;2:3; any characters, up to the length of sixty";
-        Check.type(x, text);
+        Check.type(x, States.SIXTY);
         x.install(0, 4095);
-        digestIsDue("at all limits", x, text);
+        return x;
     }
 
-    private static void digestIsDue(String where, ArchiveMirrors x, String text) {
-        Check.equal("digest, " + where, x.digest(), Digests.of(x, text));
+    private static void digestOfLimits() {
+        digestIsDue("at all limits", StateTest::atAllLimits, States.SIXTY);
+    }
+
+    private static void digestIsDue(String where, Supplier<ArchiveMirrors> make, String text) {
+        Check.equal("digest, " + where, make.get().digest(), Digests.of(make, text));
     }
 }

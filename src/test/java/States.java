@@ -42,7 +42,7 @@ final class States {
     /** As many of each as there can be: no call can add anything. */
     static ArchiveMirrors full() {
         ArchiveMirrors x = of(5, 12, 20, 6, 4);
-        while (x.packageAt(0, 3) < 30) {
+        for (int version = x.packageAt(0, 3); version < 30; version++) {
             x.publish(0);
         }
         Check.type(x, SIXTY);

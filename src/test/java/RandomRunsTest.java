@@ -10,9 +10,13 @@ public final class RandomRunsTest {
     private static final int KINDS = 27;
     private static final int[] ODD = {Integer.MIN_VALUE, -1000, -2, -1, 0, 1, 31, 32, 33, 64, 1 << 12, 1 << 30,
         Integer.MAX_VALUE};
+    /** What moves files about: publish, release, removeFile, pass, install, until. */
+    private static final int[] MOVING = {2, 2, 2, 3, 11, 11, 12, 12, 12, 12, 15, 17};
     private static final String SIGNS = "0123456789:;+abcdefghijklm ~";
 
     private final Random random;
+    /** In every other run mirrors are narrow, and most calls move files. */
+    private final boolean busy;
     private final ArchiveMirrors real = new ArchiveMirrors();
     private final Model model = new Model();
     private String call = "";
@@ -22,6 +26,7 @@ public final class RandomRunsTest {
 
     private RandomRunsTest(int seed) {
         random = new Random(seed);
+        busy = seed % 2 == 1;
     }
 
     public static void main(String[] args) {
@@ -64,6 +69,9 @@ public final class RandomRunsTest {
         if (done < 14) {
             return new int[] {1, 1, 1, 3, 9, 9, 14, 10}[random.nextInt(8)];
         }
+        if (busy && random.nextInt(4) > 0) {
+            return MOVING[random.nextInt(MOVING.length)];
+        }
         int kind = random.nextInt(KINDS);
         boolean seldom = kind == 0 || kind == 4 || kind == 10;
         return seldom && random.nextInt(kind == 0 ? 20 : 4) > 0 ? 12 + 3 * random.nextInt(2) : kind;
@@ -100,8 +108,8 @@ public final class RandomRunsTest {
             case 5: return new int[] {random.nextInt(30) == 0 ? below(200) : SIGNS.charAt(random.nextInt(28))};
             case 9: {
                 int interval = upTo(random.nextBoolean() ? 4 : 60);
-                return new int[] {set(model.sections), interval, below(interval), below(mirrors + 1) - 1, upTo(200),
-                    random.nextInt(2)};
+                return new int[] {set(model.sections), interval, below(interval), below(mirrors + 1) - 1,
+                    upTo(busy ? 80 : 200), random.nextInt(2)};
             }
             case 10: return new int[] {below(mirrors)};
             case 11: return removed();
